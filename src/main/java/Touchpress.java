@@ -177,7 +177,7 @@ public final class Touchpress {
     public int formulaCells(int which) throws IllegalArgumentException, IllegalStateException {
         checkWhich(which);
         writeFormula(which);
-        return formula.size;
+        return formula.cellCount;
     }
 
     public int formulaCell(int which, int place)
@@ -221,13 +221,15 @@ public final class Touchpress {
         if (told.count + tape.countWords() > Book.MOST_WORDS || told.copies > 0) {
             throw new IllegalStateException("the book takes these words no more");
         }
+        int words = tape.countWords();
         char between = '/';
-        for (int at = 0; at < tape.length; at++) {
+        int at = 0;
+        for (int i = 0; i < words; i++) {
             BookWord added = new BookWord();
             at = tape.spell(at, added.spelling);
-            Spelling spelling = added.spelling;
-            told.append(added, divisionOfWord(spelling), between);
+            told.append(added, divisionOfWord(added.spelling), between);
             between = at < tape.length ? tape.characters[at] : ' ';
+            at++;
         }
         tape.length = 0;
         return told.count;
@@ -601,7 +603,7 @@ public final class Touchpress {
             int wish = copy.reader == NONE && copy.hurtPages < TOO_HURT ? bestWish(copy) : NONE;
             if (wish != NONE) {
                 copy.send(wishes.readers[wish], today + LENDING_DAYS);
-                readers[copy.reader].lent++;
+                readerOf(copy.reader).lent++;
                 wishes.remove(wish);
                 sum++;
             }
@@ -712,14 +714,9 @@ public final class Touchpress {
             return c == '*' ? STAR : cellOfMark(c) != 0 ? MARK : OTHER;
         }
 
+        /** The cell of a mark; 0 if the character is none. */
         private static int cellOfMark(char c) {
-            switch (c) {
-                case ',': return COMMA;
-                case ';': return SEMICOLON;
-                case '?': return QUESTION;
-                case '.': return POINT;
-                default: return 0;
-            }
+            return c == ',' ? COMMA : c == ';' ? SEMICOLON : c == '?' ? QUESTION : c == '.' ? POINT : 0;
         }
 
         void append(char c) {
@@ -1173,7 +1170,7 @@ public final class Touchpress {
                 if (!isRead) {
                     return false;
                 }
-                from += best == NONE ? 1 : contractions[best].countCells();
+                from += best == NONE ? 1 : Math.max(1, contractions[best].countCells());
             }
             return begin < end;
         }
@@ -1265,8 +1262,8 @@ public final class Touchpress {
         private static final int ROOM = 160, MOST_NODES = 2 * MOST_ATOMS;
         // A tape of 60 characters has no more than 29 levels.
         private static final int DEEPEST = 40;
-        private static final int FRACTION = 55, FRACTION_LINE = 12, FRACTION_END = 62, RAISE = 24, RAISE_END = 16;
-        private static final int OPEN = 35, CLOSE = 28;
+        private static final int PLUS = 22, MINUS = 36, TIMES = 20, STROKE = 12, POWER = 34, OPEN = 35, CLOSE = 28;
+        private static final int FRACTION = 55, FRACTION_END = 62, RAISE = 24, RAISE_END = 16;
 
         private final char[] symbols = new char[ROOM];
         private int symbolCount;
@@ -1280,10 +1277,10 @@ public final class Touchpress {
         private int nodes;
         private int root = NONE;
         private final int[] cells = new int[ROOM];
-        int size;
+        int cellCount;
 
         int cellOrNone(int place) {
-            return place >= 0 && place < size ? cells[place] : NONE;
+            return place >= 0 && place < cellCount ? cells[place] : NONE;
         }
 
         // ---- reading symbols as a tree
@@ -1300,7 +1297,7 @@ public final class Touchpress {
         boolean readCellsOf(Formula other, boolean asField) {
             symbolCount = 0;
             boolean areDigits = false;
-            for (int i = 0; i < other.size; i++) {
+            for (int i = 0; i < other.cellCount; i++) {
                 int cell = other.cells[i];
                 int digit = digitOf(cell);
                 int letter = letterOf(cell);
@@ -1331,11 +1328,11 @@ public final class Touchpress {
 
         private static char signOf(int cell) {
             switch (cell) {
-                case 22: return '+';
-                case 36: return '-';
-                case 20: return '.';
-                case 12: return '/';
-                case 34: return '^';
+                case PLUS: return '+';
+                case MINUS: return '-';
+                case TIMES: return '.';
+                case STROKE: return '/';
+                case POWER: return '^';
                 default: return ' ';
             }
         }
@@ -1474,15 +1471,15 @@ public final class Touchpress {
         // ---- writing the tree
 
         void write(boolean asField) {
-            size = 0;
+            cellCount = 0;
             isField = asField;
             writeNode(root, 0);
         }
 
         private void appendCell(int cell) {
-            if (size < ROOM) {
-                cells[size] = cell;
-                size++;
+            if (cellCount < ROOM) {
+                cells[cellCount] = cell;
+                cellCount++;
             }
         }
 
@@ -1496,7 +1493,7 @@ public final class Touchpress {
             } else if (isField && kind == '/') {
                 appendCell(FRACTION);
                 writeNode(lefts[node], depth + 1);
-                appendCell(FRACTION_LINE);
+                appendCell(STROKE);
                 writeNode(rights[node], depth + 1);
                 appendCell(FRACTION_END);
             } else if (isField && kind == '^') {
@@ -1537,13 +1534,7 @@ public final class Touchpress {
         }
 
         private static int cellOfSign(char sign) {
-            switch (sign) {
-                case '+': return 22;
-                case '-': return 36;
-                case '.': return 20;
-                case '/': return 12;
-                default: return 34;
-            }
+            return sign == '+' ? PLUS : sign == '-' ? MINUS : sign == '.' ? TIMES : sign == '/' ? STROKE : POWER;
         }
 
         /** 0 for a sum, 1 for a product, 2 for a power. */
