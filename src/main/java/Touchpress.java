@@ -926,6 +926,15 @@ public final class Touchpress {
             }
         }
 
+        /** Forgets the letters that stand from a place on, and begins them behind the sign for letters. */
+        void markFrom(int begin) {
+            length = Math.max(0, Math.min(length, begin));
+            contractions = 0;
+            parts = 0;
+            marked = true;
+            append(LETTERS);
+        }
+
         int cellOrNone(int place) {
             return place >= 0 && place < length ? cells[place] : NONE;
         }
@@ -1076,34 +1085,34 @@ public final class Touchpress {
                 into.append(STRESS);
             }
             if (word.isDigits) {
-                into.append(NUMBERS);
-                for (int i = 0; i < word.count; i++) {
-                    into.append(digitCell(word.signs[i]));
-                }
-                into.endPart();
+                writeDigits(word, into);
             } else {
                 for (int i = 0; i < word.bigs; i++) {
                     into.append(GREAT);
                 }
-                writeLetters(word, division, grade, into);
+                int begin = into.length;
+                contract(word, division, grade, into);
+                if (!areReadAs(word, into, begin, grade)) {
+                    into.markFrom(begin);
+                    contract(word, division, NONE, into);
+                }
             }
             if (word.mark != 0) {
                 into.append(word.mark);
             }
         }
 
-        private void writeLetters(Spelling word, Division division, int grade, Writing into) {
-            int begin = into.length;
-            contract(word, division, grade, into);
-            boolean isRead = readLetters(into, begin, into.length, grade, readBack);
-            if (!isRead || !areSame(readBack.signs, readBack.count, word.signs, word.count)) {
-                into.length = begin;
-                into.parts = 0;
-                into.contractions = 0;
-                into.marked = true;
-                into.append(LETTERS);
-                contract(word, division, NONE, into);
+        private static void writeDigits(Spelling word, Writing into) {
+            into.append(NUMBERS);
+            for (int i = 0; i < word.count; i++) {
+                into.append(digitCell(word.signs[i]));
             }
+            into.endPart();
+        }
+
+        private boolean areReadAs(Spelling word, Writing row, int begin, int grade) {
+            return readLetters(row, begin, row.length, grade, readBack)
+                && areSame(readBack.signs, readBack.count, word.signs, word.count);
         }
 
         /** Writes letters from the left to the right; in the grade NONE each one stands as it is. */
@@ -1642,10 +1651,8 @@ public final class Touchpress {
             }
         }
 
-        private void putNumberAtRight(int number) {
-            int length = number < 10 ? 2 : number < 100 ? 3 : 4;
-            place = width - length;
-            putNumber(number);
+        private static int lengthOfNumber(int number) {
+            return number < 10 ? 2 : number < 100 ? 3 : 4;
         }
 
         /** Appends a word behind a blank, stroke or bar; the division is null if its letters are not divided. */
@@ -1658,7 +1665,11 @@ public final class Touchpress {
             if (there > 0) {
                 place++;
             } else {
-                beginLineFor(between);
+                if (between == '|') {
+                    turnPrintPage();
+                }
+                beginLine();
+                place = between == '/' ? 2 : 0;
                 there = word.writing.parts;
             }
             tellPlace(word, there);
@@ -1681,22 +1692,14 @@ public final class Touchpress {
             return 0;
         }
 
-        private void beginLineFor(char between) {
-            if (between == '|') {
-                turnPrintPage();
-            }
-            beginLine();
-            place = between == '/' ? 2 : 0;
-        }
-
         private void turnPrintPage() {
             if (pages > 0 && line + 1 == height - 1) {
                 beginLine();
             }
             printPage++;
             beginLine();
-            int length = printPage < 10 ? 2 : 3;
-            for (int i = 0; i < width - length; i++) {
+            int hyphens = width - lengthOfNumber(printPage);
+            for (int i = 0; i < hyphens; i++) {
                 put(HYPHEN);
             }
             putNumber(printPage);
@@ -1709,7 +1712,8 @@ public final class Touchpress {
                 lines++;
                 place = 0;
                 putNumber(printPage);
-                putNumberAtRight(pages);
+                place = width - lengthOfNumber(pages);
+                putNumber(pages);
             }
             line++;
             lines++;

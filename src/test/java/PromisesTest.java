@@ -1158,6 +1158,21 @@ public final class PromisesTest {
         is("no dots there", 0, () -> x.felt(0, 1, 0, 0));
         is("dots on the first page", 60, () -> x.felt(0, 0, 0, 0));
         is("the pins raised them all", 0, () -> x.ofCopy(0, 1));
+        Touchpress y = withCode();
+        divide(y, "c ab c");
+        y.book(0, 1, 18, 5, true);
+        addTo(y, 0, "k kkkkkkkkk Cabc, k Cabc, cabc, k");
+        due("a word in the lines 1 and 2", told(y, 0, 2), "6 0 0 1 14 1 1 0");
+        due("a word in the lines 2 and 3", told(y, 0, 5), "5 0 0 2 14 2 1 0");
+        y.emboss(0, 0);
+        is("words in two lines", 0, () -> y.ofCopy(0, 2));
+        // The dots 2 are those of b and mark, of each of three words; the last one's mark is in the line 3.
+        y.renew(1, 1, 1);
+        y.emboss(1, 0);
+        is("the first b is felt, its mark is not", 3, () -> y.ofCopy(1, 2));
+        y.renew(1, 1, 5);
+        y.emboss(1, 0);
+        is("all but the last mark", 1, () -> y.ofCopy(2, 2));
     }
 
     private static void limitOfCopies() {
@@ -1339,7 +1354,8 @@ public final class PromisesTest {
         x.emboss(0, 0);
         is("at first 0", 0, () -> x.secret(0, 5, 0));
         is("then what was told", 5, () -> x.secret(0, 1000, 63));
-        is("in place of it", 1000, () -> x.secret(0, 3, 2));
+        is("in place of it", 1000, () -> x.secret(0, 0, 63));
+        is("the day 0", 0, () -> x.secret(0, 3, 2));
         fails("book 1", BOUNDS, () -> x.secret(1, -1, 0));
         fails("book -1", BOUNDS, () -> x.secret(-1, 0, 0));
         fails("day -1", ARGUMENT, () -> x.secret(0, -1, 0));
