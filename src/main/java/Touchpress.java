@@ -750,9 +750,10 @@ public final class Touchpress {
                     default: return NONE;
                 }
             }
+            boolean isRoomForLetter = run < Spelling.MOST_LETTERS;
             switch (kind) {
-                case SMALL: return (state == IN_SMALL || state == AT_BIG) && run < Spelling.MOST_LETTERS ? IN_SMALL : NONE;
-                case BIG: return (state == AT_BIG || state == IN_BIG) && run < Spelling.MOST_LETTERS ? IN_BIG : NONE;
+                case SMALL: return (state == IN_SMALL || state == AT_BIG) && isRoomForLetter ? IN_SMALL : NONE;
+                case BIG: return (state == AT_BIG || state == IN_BIG) && isRoomForLetter ? IN_BIG : NONE;
                 case DIGIT: return state == IN_DIGITS && run < Spelling.MOST_DIGITS ? IN_DIGITS : NONE;
                 case MARK: return state != AT_MARK ? AT_MARK : NONE;
                 case BETWEEN: return AT_WORD;

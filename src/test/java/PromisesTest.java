@@ -1133,6 +1133,25 @@ public final class PromisesTest {
         // What is read as but, and was b behind the sign for letters.
         misread("b b", 4, 3, 1);
         misread("1 2 3", 2, 3, 2);
+        signThatBecomesAnother();
+    }
+
+    /** A sign for letters without its dot 5 is one for great letters; the letters behind it are read all the same. */
+    private static void signThatBecomesAnother() {
+        Touchpress x = withCode();
+        contract(x, 0, "xy", 1, Touchpress.ANY, 5, 0);
+        contract(x, 0, "ab", 1, Touchpress.ANY, 5, 0);
+        x.book(0, 1, 40, 3, true);
+        addTo(x, 0, "ab Ab AB xy");
+        due("marked", told(x, 0, 1), "4 1 0 1 6 1 1 0");
+        x.renew(0, 4, 2);
+        x.emboss(0, 0);
+        is("the first one", 32, () -> x.felt(0, 0, 1, 2));
+        is("a first one behind another", 32, () -> x.felt(0, 0, 1, 7));
+        is("great letters where there are none, or fewer", 3, () -> x.ofCopy(0, 2));
+        x.renew(0, 4, 6);
+        x.emboss(0, 0);
+        is("all felt", 0, () -> x.ofCopy(1, 2));
     }
 
     private static void splitMisread() {
