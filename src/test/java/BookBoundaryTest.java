@@ -21,6 +21,7 @@ public final class BookBoundaryTest extends Boundaries {
         wordsTold();
         ofBookArguments();
         booksTold();
+        longestBook();
         atArguments();
         end();
     }
@@ -301,6 +302,8 @@ public final class BookBoundaryTest extends Boundaries {
         test("the 24th contraction", made, add(0, "but"), is(x -> x.word(0, 0, 7), 1 << 23));
         test("a contraction twice is one in the set", made, add(0, "abab"), is(x -> x.word(0, 0, 7), 1), is(x -> x.word(0, 0, 0), 2));
         test("a marked word has none, and is 1", made, add(0, "b"), is(x -> x.word(0, 0, 7), 0), is(x -> x.word(0, 0, 1), 1));
+        test("a marked word has none, though a contraction was found for it", newCode(), contract(0, "ab", 1, 0, 63, 0), contract(0, "zz", 1, 0, 9, 0),
+            newBook(0, 1, 18, 3, true), add(0, "ab abc"), word(0, 0, "1 0 0 1 2 1 1 1"), word(0, 1, "4 1 0 1 4 1 1 0"));
         test("a word of letters alone has none, and is 0", made, add(0, "ba"), is(x -> x.word(0, 0, 7), 0), is(x -> x.word(0, 0, 1), 0));
         test("digits have none, and are 0", made, add(0, "2"), is(x -> x.word(0, 0, 7), 0), is(x -> x.word(0, 0, 1), 0), is(x -> x.word(0, 0, 5), 1));
         test("a contraction above the grade", made, add(0, "yy"), is(x -> x.word(0, 0, 7), 0), is(x -> x.word(0, 0, 0), 2));
@@ -320,6 +323,19 @@ public final class BookBoundaryTest extends Boundaries {
             test("what is " + what, made, no(x -> x.ofBook(0, what), ARGUMENT));
             test("what is " + what + " of a book that is not there", made, no(x -> x.ofBook(2, what), BOUNDS));
         }
+    }
+
+    /** Four lines of a page are its head, a bar, a word behind it, and one left empty. */
+    private static void longestBook() {
+        promise(21);
+        Step longest = all(withWidth(40, 4), add(0, "a" + "|b".repeat(29)), add(0, "a" + "|b".repeat(29)), add(0, "a" + "|b".repeat(19)));
+        test("the longest book has all its pages", longest, is(x -> x.ofBook(0, 0), 80), is(x -> x.ofBook(0, 1), 77), is(x -> x.word(0, 79, 2), 76));
+        // The 77th bar is told on the 77th page, that of the print page 78.
+        test("the last page of the longest book has its cells", longest, line(0, 76, 0, "60 27 19 0*34 60 27*2"), line(0, 76, 1, "36*37 60 27 19"),
+            line(0, 76, 2, "3 0*39"), line(0, 76, 3, "0*40"));
+        test("the copy of the longest book has its cells", longest, make(x -> x.renew(0, 0, 99999)), make(x -> x.renew(0, 2, 99999)),
+            make(x -> x.renew(0, 5, 99999)), make(x -> x.emboss(0, 0)), is(x -> x.felt(0, 76, 2, 0), 3), is(x -> x.felt(0, 76, 0, 39), 27), is(x -> x.ofCopy(0, 1), 0),
+            is(x -> x.ofCopy(0, 2), 0));
     }
 
     private static void booksTold() {

@@ -205,6 +205,8 @@ public final class CopyBoundaryTest extends Boundaries {
         Step lettered = all(newCode(), contract(0, "xy", 1, 0, 5, 0), contract(0, "ab", 1, 0, 5, 0), newBook(0, 1, 40, 3, true), add(0, "ab"));
         test("a sign for letters that is felt", lettered, emboss(0, 0), ofCopy(0, "0 0 0 0 -1 -1 0"));
         test("a sign for letters that becomes one for great letters", lettered, renew(0, 4, 2), emboss(0, 0), is(x -> x.felt(0, 0, 1, 2), 32), ofCopy(0, "0 1 1 0 -1 -1 0"));
+        test("a sign for letters that becomes a second one for great letters", newCode(), contract(0, "xy", 1, 0, 5, 0), contract(0, "ab", 1, 0, 5, 0),
+            newBook(0, 1, 40, 3, true), add(0, "Ab"), renew(0, 4, 2), emboss(0, 0), is(x -> x.felt(0, 0, 1, 3), 32), ofCopy(0, "0 1 1 0 -1 -1 0"));
         test("a sign for letters that is none any more", lettered, renew(0, 5, 2), emboss(0, 0), is(x -> x.felt(0, 0, 1, 2), 16), ofCopy(0, "0 1 1 0 -1 -1 0"));
     }
 

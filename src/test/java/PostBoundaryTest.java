@@ -141,6 +141,8 @@ public final class PostBoundaryTest extends Boundaries {
         test("what another reader knows", made, add(0, "ab"), teach(1, 0, 0), is(x -> x.unknown(0, 0), 1), is(x -> x.unknown(1, 0), 0));
         test("a book in a grade without it", made, add(2, "ab"), is(x -> x.unknown(0, 2), 0));
         test("a marked word", newCode(), contract(0, "but", 1, Touchpress.WHOLE, 3, 0), newBook(0, 1, 18, 3, true), add(0, "b but"), reader(0), is(x -> x.unknown(0, 0), 1));
+        test("a marked word, though a contraction was found for it", newCode(), contract(0, "ab", 1, 0, 63, 0), contract(0, "zz", 1, 0, 9, 0), newBook(0, 1, 18, 3, true),
+            add(0, "abc"), reader(0), is(x -> x.unknown(0, 0), 0), is(x -> x.wish(0, 0), 1));
         test("the 24th contraction", newCode(), times(23, contract(0, "zz", 1, 0, 62, 0)), contract(0, "ab", 1, 0, 63, 0), newBook(0, 1, 18, 3, true), add(0, "ab"),
             reader(0), is(x -> x.unknown(0, 0), 1), teach(0, 0, 23), is(x -> x.unknown(0, 0), 0));
         test("all words of a full book", made, add(0, "ab ".repeat(19) + "ab"), add(0, "ab ".repeat(19) + "ab"), add(0, "ab ".repeat(19) + "ab"),
@@ -370,6 +372,7 @@ public final class PostBoundaryTest extends Boundaries {
         test("whoever may have it", made, wish(2, 0), wish(0, 0), make(x -> x.secret(0, 100, 1)), is(x -> x.ahead(0, 0), 1));
         test("whoever has two copies", house(3), reader(2), reader(0), wish(0, 0), wish(0, 1), pass(1), wish(0, 2), wish(1, 2), is(x -> x.ahead(1, 2), 1));
         test("a wish that is gone", made, wish(2, 0), wish(0, 0), pass(1), is(x -> x.ahead(2, 0), -1), is(x -> x.ahead(0, 0), 0));
+        test("a wish that is gone, of a higher rank, that came last", made, wish(0, 0), wish(2, 0), pass(1), is(x -> x.ahead(0, 0), 0));
         test("five ahead of the sixth", house(1), times(6, reader(1)), wish(5, 0), wish(4, 0), wish(3, 0), wish(2, 0), wish(1, 0), wish(0, 0), is(x -> x.ahead(0, 0), 5),
             is(x -> x.ahead(5, 0), 0));
     }

@@ -110,6 +110,14 @@ public final class WordBoundaryTest extends Boundaries {
     private static void signs() {
         promise(9);
         test("the first and the last letter", newCode(), written(0, 0, "az", "1 53"));
+        int[] cells = {1, 3, 9, 25, 17, 11, 27, 19, 10, 26, 5, 7, 13, 29, 21, 15, 31, 23, 14, 30, 37, 39, 58, 45, 61, 53};
+        for (int i = 0; i < 26; i++) {
+            test("the letter " + (char) ('a' + i), newCode(), written(0, 0, "" + (char) ('a' + i), "" + cells[i]),
+                written(0, 0, "" + (char) ('A' + i), "32 " + cells[i]));
+        }
+        for (int i = 0; i < 10; i++) {
+            test("the digit " + i, newCode(), written(0, 0, "" + i, "60 " + cells[(i + 9) % 10]));
+        }
         test("w, that is out of the row", newCode(), written(0, 0, "vwx", "39 58 45"));
         test("the digits 1, 9 and 0", newCode(), written(0, 0, "190", "60 1 10 26"));
         test("zeros ahead stay", newCode(), written(0, 0, "000", "60 26 26 26"));
@@ -172,6 +180,8 @@ public final class WordBoundaryTest extends Boundaries {
             written(0, 1, "abcd", "63 9 25"));
         test("one letter more than the word has", newCode(), contract(0, "abc", 1, 0, 63, 0), written(0, 1, "ab", "1 3"));
         test("all but the last letter", newCode(), contract(0, "abc", 1, 0, 63, 0), written(0, 1, "abd", "1 3 25"));
+        test("all but the first letter", newCode(), contract(0, "abc", 1, 0, 63, 0), written(0, 1, "xbc", "45 3 9"), anew("xbc"), is(x -> x.least(0, 1), 3),
+            is(x -> x.ways(0, 1), 1));
         test("the last letters of ten", newCode(), contract(0, "ij", 1, 0, 63, 0), written(0, 1, "abcdefghij", "1 3 9 25 17 11 27 19 63"));
         test("one behind the other", newCode(), contract(0, "ab", 1, 0, 63, 0), written(0, 1, "ababab", "63 63 63"));
         test("from the left: aa of aaa", newCode(), contract(0, "aa", 1, 0, 63, 0), written(0, 1, "aaa", "63 1"));

@@ -339,9 +339,9 @@ abstract class Boundaries {
                     say(s, x, "word " + i + " " + word + " " + what, y -> y.word(book, word, asked));
                 }
             }
-            for (int k = 0; k < 60; k++) {
-                int page = k / 40;
-                int line = k / 10 % 4;
+            for (int k = 0; k < 40; k++) {
+                int page = k / 20;
+                int line = k / 5 % 4;
                 int place = 7 * k % 18;
                 say(s, x, "at " + i + " " + page + " " + line + " " + place, y -> y.at(book, page, line, place));
             }
